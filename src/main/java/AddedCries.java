@@ -845,7 +845,7 @@ public final class AddedCries {
         }
 
         private static int after(int state, int word, int[] kinds, int w) {
-            if (word < 0 || word >= WORDS || word >= kinds.length) {
+            if (word < 0 || word >= kinds.length) {
                 return state;
             }
             if (kinds[word] == PLAIN) {
@@ -992,28 +992,28 @@ public final class AddedCries {
                 here = old;
                 for (int j = two.size(); j >= 0; j--) {
                     for (int k = last.size(); k >= 0; k--) {
-                        here.write(j, k, lengthAt(one.at(i), two, j, last, k));
+                        here.write(j, k, lengthAt(one.at(i), two.at(j), j, last.at(k), k));
                     }
                 }
             }
             return (int) here.at(0, 0);
         }
 
-        private long lengthAt(int head, Cry two, int j, Cry last, int k) {
-            long shortest = by(head, head, two, j, last, k);
-            shortest = shorter(shortest, by(two.at(j), head, two, j, last, k));
-            shortest = shorter(shortest, by(last.at(k), head, two, j, last, k));
+        /** From places on at which the three wait for these WORDS (NONE at an end). */
+        private long lengthAt(int one, int two, int j, int last, int k) {
+            long shortest = shorter(by(one, one, two, j, last, k), by(two, one, two, j, last, k));
+            shortest = shorter(shortest, by(last, one, two, j, last, k));
             return shortest == NONE ? 0 : shortest;
         }
 
         /** How long it gets if a WORD stands next: all that wait for it go on. */
-        private long by(int word, int head, Cry two, int j, Cry last, int k) {
+        private long by(int word, int one, int two, int j, int last, int k) {
             if (word == NONE) {
                 return NONE;
             }
-            int nextJ = two.at(j) == word ? j + 1 : j;
-            int nextK = last.at(k) == word ? k + 1 : k;
-            return 1 + (head == word ? next.at(nextJ, nextK) : here.at(nextJ, nextK));
+            int nextJ = two == word ? j + 1 : j;
+            int nextK = last == word ? k + 1 : k;
+            return 1 + (one == word ? next.at(nextJ, nextK) : here.at(nextJ, nextK));
         }
 
         private static long shorter(long a, long b) {

@@ -352,6 +352,7 @@ public final class PromisesTest {
         C.due("11 first b", x.place(0, 1, 1, 0), 2);
         C.due("11 last b", x.place(0, 1, 1, 1), 5);
         C.due("11 last b of ba", x.place(2, 1, 0, 1), 2);
+        C.due("11 last a of ab in itself", x.place(0, 0, 0, 1), 0);
         C.due("11 not within", x.place(1, 0, 0, 0), NONE);
         C.due("11 not within, the fifth", x.place(1, 0, 5, 1), NONE);
         C.due("11 k beyond", x.place(0, 1, 2, 0), UNKNOWN);
@@ -419,6 +420,10 @@ public final class PromisesTest {
         C.due("14 other", x.shortest(0, 6, -1), LOST);
         // Unlike choices of places can make the same CRY (aaba with either a in common); it is counted once.
         dueShortest(Check.of("aab;aba"), 0, 1, 2, "aaba");
+        AddedCries y = Check.of("ab;bcab;hgfehgfehgfe;abcdabcdabcd");
+        dueShortest(y, 0, 1, 1, "bcab");
+        dueShortest(y, 1, 0, 1, "bcab");
+        dueShortest(y, 2, 3, 2704156, "abcdabcdabcdhgfehgfehgfe");
     }
 
     private static void three() {
