@@ -18,6 +18,10 @@ final class Check {
         due(what, does ? 1 : 0, 1);
     }
 
+    void same(String what, String got, String want) {
+        holds(what + " is <" + got + ">, due is <" + want + ">", got.equals(want));
+    }
+
     int wrong() {
         return wrong;
     }
@@ -63,7 +67,6 @@ final class Check {
     }
 
     void dueCry(AddedCries x, int day, String want) {
-        String got = cry(x, day);
-        holds("the CRY of DAY " + day + " is " + got + ", due is " + want, got.equals(want));
+        same("the CRY of DAY " + day, cry(x, day), want);
     }
 }
